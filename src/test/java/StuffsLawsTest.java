@@ -1,7 +1,7 @@
 /** Promises 1 to 7: a new object, stuff, of, feed, law, told, winds. */
 public final class StuffsLawsTest {
     private static final String LONGEST = "wind 1 h>0;wind 1 h>0;wind 1 h>0;wind 1 h>0;wind 1 h>0;"
-            + "wind 1 h>0;wind 1 h>0;wind 1 h>0;wind 1 h>0;wind 12 f<3|p=40";
+            + "wind 1 h>0;wind 1 h>0;wind 1 h>0;wind 1 h>0;wind 12 f<3|p=40|h>1|";
 
     public static void main(String[] args) {
         newObject();
@@ -143,7 +143,9 @@ public final class StuffsLawsTest {
         due("a ninth law: count(1)", x.count(1), 8);
 
         HoneyWinds y = new HoneyWinds();
-        due("the longest tape", Due.feed(y, LONGEST.replace("f<3|p=40", "f<3|p=4")), 114);
+        due("the longest tape, ending too early", Due.feed(y, LONGEST), 120);
+        due("its fault", y.law(0, 1), -130);
+        due("the longest tape", Due.feed(y, LONGEST.replace("h>1|", "!f=9")), 120);
         due("its law", y.law(0, 1), 0);
     }
 
