@@ -876,59 +876,48 @@ public final class HoneyWinds {
         }
 
         private boolean isClause() {
-            switch (ahead()) {
-                case 'w': return comesWord("wind") && isWinding(WIND);
-                case 'e': return comesWord("ease") && isWinding(EASE);
-                case 'f': return comesWord("form") && isForming();
-                case 'h': return comesWord("heap") && isHeaping();
-                case 'c': return comesWord("cool") && isCooling();
-                default: return false;
-            }
-        }
-
-        private boolean isWinding(int does) {
-            if (!comes(' ')) {
+            int letter = ahead();
+            String word = wordOf(letter);
+            if (word == null || !comesWord(word)) {
                 return false;
             }
-            int n = number();
-            if (n < 0 || !comes(' ') || !isAny(0)) {
-                return false;
-            }
-            add(does | n << 8);
-            return true;
-        }
-
-        private boolean isForming() {
-            if (!comes(' ') || !isWithin(ahead(), '1', '4')) {
-                return false;
-            }
-            int k = ahead() - '1';
-            place++;
-            if (!comes(' ')) {
-                return false;
-            }
-            int n = number();
+            int k = letter == 'f' ? formTold() : 0;
+            int n = k < 0 ? -1 : number();
             if (n < 0) {
                 return false;
             }
-            forms[k] = n;
+            switch (letter) {
+                case 'f': forms[k] = n; return true;
+                case 'h': heap = n; return true;
+                case 'c': cool = n; return true;
+                default: break;
+            }
+            if (!comes(' ') || !isAny(0)) {
+                return false;
+            }
+            add((letter == 'w' ? WIND : EASE) | n << 8);
             return true;
         }
 
-        private boolean isHeaping() {
-            if (!comes(' ')) {
-                return false;
+        private static String wordOf(int letter) {
+            switch (letter) {
+                case 'w': return "wind ";
+                case 'e': return "ease ";
+                case 'f': return "form ";
+                case 'h': return "heap ";
+                case 'c': return "cool ";
+                default: return null;
             }
-            heap = number();
-            return heap >= 0;
         }
 
-        private boolean isCooling() {
-            if (!comes(' ')) {
-                return false;
+        /** The place of a form's number in the row of them; -1 if none comes. */
+        private int formTold() {
+            int k = ahead() - '1';
+            if (!isWithin(k, 0, FORM_LIMIT - 1)) {
+                return -1;
             }
-            cool = number();
-            return cool >= 0;
+            place++;
+            return comes(' ') ? k : -1;
         }
 
         private boolean isAny(int open) {
