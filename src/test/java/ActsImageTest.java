@@ -161,6 +161,8 @@ public final class ActsImageTest {
             due("undo", x.undo(), 1);
             due("undo: STUFFS", x.count(0), 1);
             due("undo: STIFF", x.of(0, 0), 4);
+            due("undo: a STUFF that is no more", x.of(1, 0), -1);
+            due("undo: a LAW that is no more", x.off(1), -1);
             due("undo: LAWS", x.count(1), 1);
             due("undo: FILMS", x.count(2), 1);
             due("undo: OFF", x.off(0), 2);

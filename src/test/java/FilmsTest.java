@@ -164,6 +164,12 @@ public final class FilmsTest {
         read(x, 2, 19, 0, 2, 703, 704);
         read(x, 2, 9, 1, 1, 705, 705);
         read(x, 2, 1, 4, 59 * 96, 102, 6099);
+        Due.law(x, 0, 1, "wind 10 h>0;wind 1 p>98");
+        Due.law(x, 0, 1, "wind 10 h>0;wind 1 p=98");
+        Due.law(x, 0, 1, "wind 10 h>0;wind 1 p<99");
+        read(x, 3, 11, 4, 60, 199, 6099);
+        read(x, 4, 11, 4, 60, 198, 6098);
+        read(x, 5, 10, 4, 60, 199, 6099);
     }
 
     private static void readRefusals() {
@@ -205,6 +211,8 @@ public final class FilmsTest {
         HoneyWinds z = with(TEN);
         Due.law(z, 4, 5, TEN);
         due("next of EITHER, HIGH from 51 on", z.next(1, 5), 51);
+        HoneyWinds w = with(TEN, "wind 10 h>0;wind 1 h=8");
+        due("next, 1 apart at 8", w.next(0, 5), 8);
     }
 
     private static void nextRefusals() {
@@ -236,6 +244,10 @@ public final class FilmsTest {
         due("two, 3 and 3 are still enough", x.two(2, 0, 1, 6, 505), -5);
         due("two of PACE 0", x.two(3, 0, 1, 99, 505), -5);
         due("two by d 1", x.two(0, 0, 0, 1, 505), -5);
+        HoneyWinds y = with("wind 10 h<60;wind 99 h=60;wind 1 h=60&g=9;wind 2 h=60&g=1");
+        due("two, at 60 alone: 1 and 0", y.two(0, 0, 1, 2, 505), 60);
+        due("two, at 60 they join", y.two(0, 0, 1, 1, 505), -5);
+        due("two, 100 by 101 is 0", y.two(0, 1, 1, 1, 505), 60);
     }
 
     private static void twoByFlows() {

@@ -12,6 +12,7 @@ public final class FormsTest {
         found();
         foundByN();
         foundSeveral();
+        foundAtTheEnds();
         foundLong();
         foundRefusals();
         bears();
@@ -49,11 +50,13 @@ public final class FormsTest {
         due("order of 4 there", x.order(2, 0, 100500, 4), 0);
         due("order at the last PACE", x.order(3, 0, 100500, 4), 99);
         due("order of 3 at 900 by 99", x.order(3, 0, 100500, 3), 90);
+        Due.law(x, 0, 1, "wind 99 h>0;ease 98 p>98;form 4 20");
+        due("order at the last PACE, where an ease holds", x.order(5, 0, 100500, 4), 99);
         due("order by FLOW 5", x.order(4, 0, 100500, 1), 3);
         due("order by FLOW 6", x.order(4, 0, 100600, 1), 6);
         Due.law(x, 4, 2, "wind 10 h>0;wind 8 p<1");
-        due("order of EITHER that is not HIGH", x.order(5, 1, 200500, 1), 3);
-        due("order of EITHER that is HIGH, 12 TURNS", x.order(5, 1, 210500, 1), 4);
+        due("order of EITHER that is not HIGH", x.order(6, 1, 200500, 1), 3);
+        due("order of EITHER that is HIGH, 12 TURNS", x.order(6, 1, 210500, 1), 4);
     }
 
     private static void orderRefusals() {
@@ -174,6 +177,23 @@ public final class FormsTest {
         found(x, 2, 99, -5, -5, -5, -5);
     }
 
+    // TURNS 1: FORM 0 at PACE 0, 3 at 1, 4 from 2 on. TURNS 99: FORM 4 at 99 alone, 3 from 90 on.
+    private static void foundAtTheEnds() {
+        HoneyWinds x = with("wind 1 h>0", "wind 99 h>0;form 4 10");
+        row(x, 3);
+        found(x, 0, 0, 0, 1);
+        row(x, 3, 0);
+        found(x, 0, 1, 1, 1, 0);
+        row(x, 4, 0, 4);
+        found(x, 0, 99, 4, 2, 0, 2);
+        row(x, 4, 3, 4);
+        found(x, 1, 1, 2, 99, 98, 99);
+        row(x, 3, 4);
+        found(x, 1, 99, 1, 98, 99);
+        row(x, 0, 4);
+        found(x, 1, 99, 99 - 29, 29, 99);
+    }
+
     private static void foundLong() {
         HoneyWinds x = with(TEN);
         row(x, 0, 1, 0, 1, 0, 1, 0, 4);
@@ -232,6 +252,10 @@ public final class FormsTest {
         due("bears by FORM, not by TURNS", y.bears(2, 0, 550500, -1), 20);
         Due.law(y, 4, 3, "wind 10 h>0");
         due("bears EITHER", y.bears(3, 1, 280503, -1), 2);
+        Due.law(y, 0, 1, "wind 10 h>0;wind 10 h>60");
+        due("bears where there is no more HEIGHT", y.bears(4, 0, 600505, -1), 20);
+        Due.law(y, 0, 1, "wind 10 h>0;wind 10 h<1");
+        due("bears where there is no less HEIGHT", y.bears(5, 0, 10505, -1), 20);
     }
 
     private static void bearsRefusals() {

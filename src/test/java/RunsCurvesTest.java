@@ -75,9 +75,16 @@ public final class RunsCurvesTest {
         for (int i = 0; i < 20; i++) {
             x.tick(100500 + i);
         }
+        due("20: run(0, 0, 2)", x.run(0, 0, 2), 4);
         due("the last of 20: run(0, 0, 119)", x.run(0, 0, 119), 4);
         due("the last of 20: run(0, 0, 219)", x.run(0, 0, 219), 10);
         due("the last of 20: run(0, 0, 319)", x.run(0, 0, 319), 0);
+        x.tick(-1);
+        x.tick(100599);
+        x.tick(100500);
+        due("anew: run(0, 0, 2)", x.run(0, 0, 2), 1);
+        due("anew: run(0, 0, 1)", x.run(0, 0, 1), 20);
+        due("anew: run(0, 0, 102)", x.run(0, 0, 102), -1);
     }
 
     private static void runTurnsAndForms() {
@@ -139,6 +146,12 @@ public final class RunsCurvesTest {
         due("SKINNED, 100 by 3", y.run(0, 0, 200), 34);
         due("SKINNED, 100 by 52", y.run(0, 0, 201), 2);
         due("SKINNED, 100 by 99, not by 101", y.run(0, 0, 202), 2);
+        y.stuff(3, 11);
+        Due.law(y, 5, 9, "cool 99");
+        due("SKINNED, 99 by 99", y.run(1, 1, 201), 2);
+        y.stuff(3, 14);
+        Due.law(y, 5, 7, "cool 99");
+        due("SKINNED, 98 by 99", y.run(2, 2, 201), 1);
     }
 
     private static void runHeap() {
