@@ -1,16 +1,35 @@
 import java.nio.charset.StandardCharsets;
+import java.util.function.IntUnaryOperator;
 
 /** What the tests share: answers that are due, and a law told as a text. */
 final class Due {
     private static int wrong = 0;
+    private static String sentence = "";
 
     private Due() {
+    }
+
+    /** The document's sentence that the answers from here on are due by. */
+    static void sentence(String words) {
+        sentence = " (\"" + words + "\")";
     }
 
     static void due(String call, long got, long want) {
         if (got != want) {
             wrong++;
-            System.out.println(call + " answered " + got + ", due is " + want);
+            System.out.println(call + " answered " + got + ", due is " + want + sentence);
+        }
+    }
+
+    /** From least to greatest a call is not refused; one beyond either end, and far beyond, it answers as refused. */
+    static void within(String call, int least, int greatest, int refused, IntUnaryOperator answer) {
+        int[] out = {least - 1, greatest + 1, Integer.MIN_VALUE, Integer.MAX_VALUE};
+        for (int n : out) {
+            due(call + " with " + n, answer.applyAsInt(n), refused);
+        }
+        for (int n = least; n <= greatest; n++) {
+            int a = answer.applyAsInt(n);
+            due(call + " with " + n + " answered " + a + ": refused", a < 0 && a != -5 && a != -6 ? 1 : 0, 0);
         }
     }
 

@@ -65,7 +65,7 @@ final class Model {
         return m.matches() || m.hitEnd();
     }
 
-    private static int faultOf(String text) {
+    static int faultOf(String text) {
         for (int i = 0; i < text.length(); i++) {
             if (!isLawOrItsBeginning(text.substring(0, i + 1))) {
                 return i;
