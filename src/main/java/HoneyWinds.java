@@ -1065,13 +1065,20 @@ public final class HoneyWinds {
             cool = reader.cool;
             forms = Arrays.copyOf(reader.forms, FORM_LIMIT);
             code = Arrays.copyOf(reader.code, reader.codeSize);
+            for (int p = 0; p < PACES; p++) {
+                shifts[p] = isTestedAt(p);
+            }
+        }
+
+        // A test of the pace by n turns at n or behind it, and nowhere else.
+        private boolean isTestedAt(int pace) {
             for (int i = 0; i < code.length; i++) {
-                if ((code[i] & 7) == TEST && (code[i] >> 3 & 7) == ABOUT_PACE) {
-                    int n = code[i] >> 8;
-                    shifts[n] = true;
-                    shifts[Math.min(n + 1, PACES - 1)] = true;
+                int n = code[i] >> 8;
+                if ((code[i] & 7) == TEST && (code[i] >> 3 & 7) == ABOUT_PACE && isWithin(pace, n, n + 1)) {
+                    return true;
                 }
             }
+            return false;
         }
 
         // The truths that wait for their sign are the bits of one int: 13 at most, as five may be open.
