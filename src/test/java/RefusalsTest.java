@@ -17,7 +17,7 @@ public final class RefusalsTest {
     private static final int[] NO_STUFFS = {-1, 5, Integer.MIN_VALUE, Integer.MAX_VALUE};
     private static final int OK = 100503;
 
-    private interface Call {
+    interface Call {
         int on(HoneyWinds x);
     }
 
@@ -43,7 +43,7 @@ public final class RefusalsTest {
 
     // ---- the worlds
 
-    private static HoneyWinds world(char name) {
+    static HoneyWinds world(char name) {
         HoneyWinds x = new HoneyWinds();
         if (name == 'E') {
             return x;
@@ -105,7 +105,7 @@ public final class RefusalsTest {
 
     // ---- all that is there
 
-    private static List<Integer> lookAtAll(HoneyWinds x) {
+    static List<Integer> lookAtAll(HoneyWinds x) {
         List<Integer> seen = new ArrayList<>();
         look(x, seen);
         seen.add(x.law(2, 8));
